@@ -201,7 +201,7 @@ public final class AfterFire {
             return NONE;
         }
         survey.measure(there, t);
-        return survey.leastQuarrel();
+        return survey.leastQuarrel(there, t);
     }
 
     public int border(int street, int t, int k) {
@@ -738,65 +738,72 @@ public final class AfterFire {
     /**
      * New borders of a street. All that is summed is convex, and so is each row of least
      * quarrels: a walk that stops where the next foot is no better stands on the first best
-     * foot, and a later beginning never has an earlier one. So each row is filled in one pass.
+     * foot, and a plot that begins later never ends earlier. So each row is filled in one pass.
      */
     private static final class Survey {
-        private final int[][] least = new int[MOST_ON_STREET][LONGEST_ROW + 1];
+        // beyond[i][y]: the least quarrel of the i-th border at foot y and of all behind it.
+        private final int[][] beyond = new int[MOST_ON_STREET][LONGEST_ROW + 1];
 
-        private int leastQuarrel() {
-            return least[0][0];
-        }
-
-        /** Fills least[i][x]: the least quarrel of the i-th plot and those behind, from foot x. */
         private void measure(Street street, int feet) {
             int last = street.row.size() - 1;
-            if (!within(last, 0, MOST_ON_STREET - 1) || feet > LONGEST_ROW) {
+            if (!within(last, 0, MOST_ON_STREET - 1) || !within(feet, 1, LONGEST_ROW)) {
                 return;
             }
-            for (int x = last; x < feet; x++) {
-                least[last][x] = Math.abs(feet - x - street.frontOf(last));
-            }
+            beyond[last][feet] = 0;
             for (int i = last - 1; i >= 0; i--) {
                 fillRow(street, i, feet - (last - i));
             }
         }
 
         private void fillRow(Street street, int i, int farthest) {
-            int y = i + 1;
-            for (int x = i; x < farthest; x++) {
-                y = firstBest(street, i, x, Math.max(y, x + 1), farthest);
-                least[i][x] = quarrelWith(street, i, x, y);
+            boolean nextIsLast = i + 1 == street.row.size() - 1;
+            int front = street.frontOf(i + 1);
+            int end = nextIsLast ? farthest + 1 : i + 2;
+            for (int foot = i + 1; foot <= farthest; foot++) {
+                end = firstBest(beyond[i + 1], foot + front, Math.max(end, foot + 1), farthest + 1);
+                beyond[i][foot] = street.stakeGap(i, foot)
+                        + quarrelAt(beyond[i + 1], foot + front, end);
             }
         }
 
-        private int firstBest(Street street, int i, int x, int from, int farthest) {
-            int y = from;
-            int here = quarrelWith(street, i, x, y);
-            while (y < farthest) {
-                int next = quarrelWith(street, i, x, y + 1);
+        /** Where the deed would have the end, and the end that is tried. */
+        private static int quarrelAt(int[] row, int byDeed, int end) {
+            return within(end, 0, row.length - 1) ? Math.abs(end - byDeed) + row[end] : 0;
+        }
+
+        private static int firstBest(int[] row, int byDeed, int from, int farthest) {
+            int end = from;
+            int here = quarrelAt(row, byDeed, end);
+            while (end < farthest) {
+                int next = quarrelAt(row, byDeed, end + 1);
                 if (next >= here) {
-                    return y;
+                    return end;
                 }
                 here = next;
-                y++;
+                end++;
             }
-            return y;
+            return end;
         }
 
-        private int quarrelWith(Street street, int i, int x, int y) {
-            if (!within(i, 0, MOST_ON_STREET - 2) || !within(y, 0, LONGEST_ROW)) {
-                return 0;
-            }
-            return Math.abs(y - x - street.frontOf(i)) + street.stakeGap(i, y) + least[i + 1][y];
+        private int leastQuarrel(Street street, int feet) {
+            return quarrelAt(beyond[0], street.frontOf(0), endOf(street, feet, 0, 0));
         }
 
         private int borderBehind(Street street, int feet, int k) {
-            int last = street.row.size() - 1;
-            int x = 0;
-            for (int i = 0; i <= k && i < last; i++) {
-                x = firstBest(street, i, x, x + 1, feet - (last - i));
+            int foot = 0;
+            for (int i = 0; i <= k && i < MOST_ON_STREET; i++) {
+                foot = endOf(street, feet, i, foot);
             }
-            return x;
+            return foot;
+        }
+
+        /** The first best end of the i-th plot, if it begins at that foot. */
+        private int endOf(Street street, int feet, int i, int begin) {
+            int last = street.row.size() - 1;
+            if (!within(i, 0, last - 1)) {
+                return feet;
+            }
+            return firstBest(beyond[i], begin + street.frontOf(i), begin + 1, feet - (last - i));
         }
     }
 }

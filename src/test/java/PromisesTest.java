@@ -18,6 +18,7 @@ public final class PromisesTest {
         walls();
         act();
         year();
+        leasesEnd();
         due();
         saved();
         heap();
@@ -232,6 +233,7 @@ public final class PromisesTest {
         lastBearsAll();
         partsPastAnInt();
         x.decree(0);
+        x.coins(0, 100000);
         check.due("no decree can be on a built plot", x.bears(0, 0), NO);
     }
 
@@ -409,6 +411,7 @@ public final class PromisesTest {
         check.due("told(0, 2)", x.told(0, 2), 20);
         check.due("told(0, 0)", x.told(0, 0), 0);
         check.due("told(1, 0)", x.told(1, 0), 3);
+        check.due("a taken plot's DEPTH is told as it was", x.told(1, 2), 59);
         check.due("another street", x.told(2, 2), 59);
         check.due("pay 3", x.has(0), 1200);
         check.due("all is paid", x.has(1), 60 * 59);
@@ -464,6 +467,31 @@ public final class PromisesTest {
         check.due("nothing is forfeited", x.told(5, 0), 0);
         check.due("leases stay", x.told(5, 3), 1);
         check.due("no tax comes", x.count(5), 0);
+    }
+
+    private static void leasesEnd() {
+        check.part("11 year, leases");
+        AfterFire x = new AfterFire();
+        x.plot(0, 10020, 0);
+        x.lease(0, 1, 3, 1);
+        x.lease(0, 2, 2, 1);
+        x.lease(0, 3, 2, 1);
+        x.year();
+        check.due("all run on", x.told(0, 3), 3);
+        check.due("chain(0, 3, 1)", x.chain(0, 3, 1), 1);
+        x.year();
+        check.due("two are over at once", x.told(0, 3), 1);
+        check.due("chain(0, 2, 0)", x.chain(0, 2, 0), NO);
+        check.due("room for others", x.lease(0, 4, 1, 7), 2);
+        check.due("chain(0, 2, 2)", x.chain(0, 2, 2), 7);
+        x.year();
+        check.due("all are over", x.told(0, 3), 0);
+        check.due("the owner stays", x.chain(0, 0, 0), 0);
+        x.lease(0, 5, 1, 1);
+        x.coins(0, 400);
+        check.due("decree(0)", x.decree(0), 0);
+        x.year();
+        check.due("leases of built plots end too", x.told(0, 3), 0);
     }
 
     private static void due() {
