@@ -116,8 +116,11 @@ public final class AfterFire {
 
     public int decree(int plot) {
         Plot p = plotAt(plot);
-        int builderPlace = p == null ? NONE : findBuilder(p);
-        if (p == null || builderPlace == NONE) {
+        if (p == null || p.state != BURNED) {
+            return NONE;
+        }
+        int builderPlace = findBuilder(p);
+        if (builderPlace == NONE) {
             return NONE;
         }
         int builder = p.holders.personAt(builderPlace);
@@ -306,11 +309,8 @@ public final class AfterFire {
         return found;
     }
 
-    /** The place in the chain of who would rebuild; NONE too where no decree can be. */
+    /** The place in the chain of who would rebuild; a built plot's chain stands, and has one too. */
     private int findBuilder(Plot p) {
-        if (p.state != BURNED) {
-            return NONE;
-        }
         int cost = costOf(p);
         for (int k = p.holders.size - 1; k >= 0; k--) {
             int person = p.holders.personAt(k);

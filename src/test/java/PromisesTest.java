@@ -232,9 +232,53 @@ public final class PromisesTest {
         check.due("253 in halves: the one farther down", y.bears(2, 1), 126);
         lastBearsAll();
         partsPastAnInt();
-        x.decree(0);
+        bearsOnABuiltPlot();
+        bearsOnALostPlot();
+    }
+
+    private static void bearsOnABuiltPlot() {
+        AfterFire x = new AfterFire();
+        x.rates(1, 3, 10);
+        x.plot(0, 10020, 0);
+        x.lease(0, 1, 1, 5);
+        x.coins(1, 200);
+        check.due("decree(0)", x.decree(0), 1);
+        check.due("200 by 200 5: the owner bore 195", x.has(1), 195);
+        x.coins(1, 4);
+        check.due("built, one coin below COST", x.bears(0, 0), NO);
+        x.coins(1, 1);
+        check.due("built, by the years the lease has then", x.bears(0, 0), 100);
+        check.due("built, by the years the lease has then", x.bears(0, 1), 100);
+        check.due("built, no such place", x.bears(0, 2), NO);
+        check.due("built, below the chain", x.bears(0, -1), NO);
+        check.due("no second decree", x.decree(0), NO);
+        check.due("nothing is paid", x.has(1), 200);
+        x.rates(2, 3, 10);
+        check.due("built, the new rate is too dear", x.bears(0, 0), NO);
+        x.coins(0, 595);
+        check.due("built, by the new rate", x.bears(0, 1), 200);
+        for (int i = 0; i < 10; i++) {
+            x.year();
+        }
+        check.due("built, the lease has 30 years: 400 by 200 150", x.bears(0, 0), 229);
+        check.due("built, the lease has 30 years: 400 by 200 150", x.bears(0, 1), 171);
+        for (int i = 0; i < 30; i++) {
+            x.year();
+        }
+        check.due("built, the lease has gone", x.bears(0, 0), 400);
+        check.due("built, the lease has gone", x.bears(0, 1), NO);
+    }
+
+    private static void bearsOnALostPlot() {
+        AfterFire x = new AfterFire();
+        x.rates(1, 3, 0);
         x.coins(0, 100000);
-        check.due("no decree can be on a built plot", x.bears(0, 0), NO);
+        x.plot(0, 10020, 0);
+        x.act(0, 1);
+        check.due("taken", x.bears(0, 0), NO);
+        x.plot(1, 10020, 0);
+        x.year();
+        check.due("forfeited", x.bears(1, 0), NO);
     }
 
     private static void lastBearsAll() {
@@ -277,6 +321,9 @@ public final class PromisesTest {
         check.due("told(0, 4)", x.told(0, 4), 0);
         check.due("told(0, 5)", x.told(0, 5), 0);
         check.due("again", x.decree(0), NO);
+        x.coins(2, 5222);
+        check.due("again, with coins enough", x.decree(0), NO);
+        check.due("has(2)", x.has(2), 5000);
         x.plot(1, 10020, 3);
         x.lease(1, 4, 50, 5);
         x.coins(3, 9999);

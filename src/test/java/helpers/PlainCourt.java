@@ -145,7 +145,7 @@ final class PlainCourt {
 
     private int builder(Ground g) {
         int found = NO;
-        for (int k = 0; g.how == 0 && k < g.chain.size(); k++) {
+        for (int k = 0; k < g.chain.size(); k++) {
             if (purse[g.chain.get(k).person] >= cost(g)) {
                 found = k;
             }
@@ -181,7 +181,7 @@ final class PlainCourt {
 
     int decree(int plot) {
         Ground g = ground(plot);
-        int b = g == null ? NO : builder(g);
+        int b = g == null || g.how != 0 ? NO : builder(g);
         if (b == NO) {
             return NO;
         }
