@@ -725,7 +725,6 @@ public final class AfterFire {
             money += yearlyTax;
             while (paidWhole < size && money >= unpaid[paidWhole]) {
                 money -= unpaid[paidWhole];
-                unpaid[paidWhole] = 0;
                 paidWhole++;
             }
             if (paidWhole < size) {
