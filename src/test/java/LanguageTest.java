@@ -3,8 +3,6 @@ import java.lang.reflect.Constructor;
 import java.lang.reflect.Field;
 import java.lang.reflect.Method;
 import java.lang.reflect.Modifier;
-import java.nio.file.Files;
-import java.nio.file.Path;
 import java.util.Arrays;
 import java.util.List;
 import java.util.Set;
@@ -40,7 +38,7 @@ public final class LanguageTest {
         check.holds(classes + " classes are too many", classes <= 11);
         members(AfterFire.class);
         check.part("text");
-        text(Files.readString(Path.of(System.getProperty("afterfire.source", "src/main/java/AfterFire.java"))));
+        text(Project.text("src/main/java/AfterFire.java"));
         check.end();
     }
 
